@@ -1,0 +1,202 @@
+/** Promises 1 to 6 and 19: a new object, document, count, weigh, token, centroid, quantised. */
+public final class CollectionTest {
+    private static final Class<IllegalStateException> STATE = IllegalStateException.class;
+    private static final Class<IllegalArgumentException> ARGUMENT = IllegalArgumentException.class;
+    private static final Class<IndexOutOfBoundsException> INDEX = IndexOutOfBoundsException.class;
+    private static final Class<java.util.NoSuchElementException> NO_SUCH = java.util.NoSuchElementException.class;
+    private static final float[] WRONG = {Float.NaN, Float.POSITIVE_INFINITY, Float.NEGATIVE_INFINITY,
+        Math.nextUp(1048576f), -Math.nextUp(1048576f)};
+
+    private static final Checks checks = new Checks("CollectionTest");
+
+    public static void main(String[] args) {
+        newObject();
+        documents();
+        countsOfTerms();
+        weights();
+        tokens();
+        centroids();
+        quantisedWeights();
+        everyChangeTakesTheLists();
+        refusedChangesLeaveTheLists();
+        checks.end();
+    }
+
+    private static void newObject() {
+        HybridSearch x = new HybridSearch();
+        checks.refuses("count without documents", INDEX, () -> x.count(0, 0));
+        checks.refuses("quantised without documents", INDEX, () -> x.quantised(0, 0));
+        for (int view = 0; view < 3; view++) {
+            int v = view;
+            checks.refuses("hit without a list", NO_SUCH, () -> x.hit(v, 0));
+            checks.refuses("score without a list", NO_SUCH, () -> x.score(v, 0));
+            checks.refuses("work without a list", NO_SUCH, () -> x.work(v, 0));
+        }
+        checks.refuses("fuse without a list", STATE, () -> x.fuse(0));
+        checks.refuses("fused before fuse", INDEX, () -> x.fused(0));
+        checks.refuses("rating before fuse", INDEX, () -> x.rating(0));
+        checks.refuses("near without centroids", STATE, () -> x.search(2, 2, 1, 1));
+        for (int view = 0; view < 3; view++) {
+            int v = view;
+            checks.answers("an empty query finds nothing", 0, () -> x.search(v, 0, 20, 1));
+            checks.answers("and scores nothing", 0, () -> x.work(v, 0));
+        }
+        HybridSearch other = new HybridSearch();
+        checks.answers("an object's first document", 0, x::document);
+        checks.answers("another object's first document", 0, other::document);
+    }
+
+    private static void documents() {
+        HybridSearch x = new HybridSearch();
+        for (int n = 0; n < 16; n++) {
+            checks.answers("document " + n, n, x::document);
+        }
+        checks.refuses("document 16", STATE, x::document);
+        checks.answers("the last document", 1, () -> x.count(15, 11));
+        checks.refuses("a document beyond", INDEX, () -> x.count(16, 0));
+    }
+
+    private static void countsOfTerms() {
+        HybridSearch x = Samples.withDocuments(2);
+        checks.answers("first", 1, () -> x.count(0, 0));
+        checks.answers("second", 2, () -> x.count(0, 0));
+        checks.answers("another term", 1, () -> x.count(0, 11));
+        checks.answers("another document", 1, () -> x.count(1, 0));
+        checks.refuses("document -1", INDEX, () -> x.count(-1, 0));
+        checks.refuses("document 2", INDEX, () -> x.count(2, 0));
+        checks.refuses("term -1", INDEX, () -> x.count(0, -1));
+        checks.refuses("term 12", INDEX, () -> x.count(0, 12));
+        checks.refuses("far document", INDEX, () -> x.count(Integer.MAX_VALUE, 0));
+        checks.refuses("far term", INDEX, () -> x.count(0, Integer.MIN_VALUE));
+        for (int n = 3; n <= 1000; n++) {
+            checks.answers("count " + n, n, () -> x.count(0, 0));
+        }
+        checks.refuses("count 1001", STATE, () -> x.count(0, 0));
+        checks.refuses("a term that is not there comes first", INDEX, () -> x.count(0, 12));
+        checks.answers("others go on", 2, () -> x.count(0, 11));
+    }
+
+    private static void weights() {
+        HybridSearch x = Samples.withDocuments(1);
+        checks.does("0", () -> x.weigh(0, 0, 0f));
+        checks.does("-0 is not below 0", () -> x.weigh(0, 0, -0f));
+        checks.does("the greatest", () -> x.weigh(0, 0, 1048576f));
+        checks.does("the least", () -> x.weigh(0, 11, Float.MIN_VALUE));
+        for (float weight : WRONG) {
+            checks.refuses("weight " + weight, ARGUMENT, () -> x.weigh(0, 0, weight));
+            checks.refuses("no such document comes first", INDEX, () -> x.weigh(1, 0, weight));
+        }
+        checks.refuses("below 0", ARGUMENT, () -> x.weigh(0, 0, -Float.MIN_VALUE));
+        checks.refuses("document -1", INDEX, () -> x.weigh(-1, 0, 1f));
+        checks.refuses("document 1", INDEX, () -> x.weigh(1, 0, 1f));
+        checks.refuses("term -1", INDEX, () -> x.weigh(0, -1, 1f));
+        checks.refuses("term 12", INDEX, () -> x.weigh(0, 12, 1f));
+        checks.answers("a refused weight changes nothing", 255, () -> x.quantised(0, 0));
+        checks.does("a weight can be taken back", () -> x.weigh(0, 0, 0f));
+        checks.answers("then it has no impact", 0, () -> x.quantised(0, 0));
+    }
+
+    private static void tokens() {
+        HybridSearch x = Samples.withDocuments(2);
+        checks.answers("token 0", 0, () -> x.token(0, 1f, 2f, 3f, 4f));
+        checks.answers("token 1", 1, () -> x.token(0, 1048576f, -1048576f, 0f, -0f));
+        checks.answers("another document's", 0, () -> x.token(1, 0f, 0f, 0f, 0f));
+        for (float n : WRONG) {
+            checks.refuses("a " + n, ARGUMENT, () -> x.token(0, n, 0f, 0f, 0f));
+            checks.refuses("b " + n, ARGUMENT, () -> x.token(0, 0f, n, 0f, 0f));
+            checks.refuses("c " + n, ARGUMENT, () -> x.token(0, 0f, 0f, n, 0f));
+            checks.refuses("d " + n, ARGUMENT, () -> x.token(0, 0f, 0f, 0f, n));
+            checks.refuses("no such document comes first", INDEX, () -> x.token(2, n, 0f, 0f, 0f));
+        }
+        checks.refuses("document -1", INDEX, () -> x.token(-1, 0f, 0f, 0f, 0f));
+        checks.answers("token 2", 2, () -> x.token(0, 0f, 0f, 0f, 0f));
+        checks.answers("token 3", 3, () -> x.token(0, 0f, 0f, 0f, 0f));
+        checks.refuses("token 4", STATE, () -> x.token(0, 0f, 0f, 0f, 0f));
+        checks.refuses("a wrong number comes first", ARGUMENT, () -> x.token(0, Float.NaN, 0f, 0f, 0f));
+        checks.answers("the other goes on", 1, () -> x.token(1, 0f, 0f, 0f, 0f));
+    }
+
+    private static void centroids() {
+        HybridSearch x = new HybridSearch();
+        checks.answers("centroid 0", 0, () -> x.centroid(1f, 0f, 0f, 0f));
+        for (float n : WRONG) {
+            checks.refuses("a " + n, ARGUMENT, () -> x.centroid(n, 0f, 0f, 0f));
+            checks.refuses("b " + n, ARGUMENT, () -> x.centroid(0f, n, 0f, 0f));
+            checks.refuses("c " + n, ARGUMENT, () -> x.centroid(0f, 0f, n, 0f));
+            checks.refuses("d " + n, ARGUMENT, () -> x.centroid(0f, 0f, 0f, n));
+        }
+        checks.answers("centroid 1", 1, () -> x.centroid(1048576f, -1048576f, -0f, 0f));
+        checks.answers("centroid 2", 2, () -> x.centroid(0f, 0f, 0f, 0f));
+        checks.answers("centroid 3", 3, () -> x.centroid(0f, 0f, 0f, 0f));
+        checks.refuses("centroid 4", STATE, () -> x.centroid(0f, 0f, 0f, 0f));
+        checks.refuses("a wrong number comes first", ARGUMENT, () -> x.centroid(0f, 0f, 0f, Float.NaN));
+    }
+
+    private static void quantisedWeights() {
+        HybridSearch x = Samples.withDocuments(3);
+        checks.answers("no weights at all", 0, () -> x.quantised(0, 0));
+        x.weigh(0, 0, Float.MIN_VALUE);
+        checks.answers("the only one, however small", 255, () -> x.quantised(0, 0));
+        x.weigh(1, 7, 3f);
+        checks.answers("too small beside another", 0, () -> x.quantised(0, 0));
+        x.weigh(0, 0, 1.5f);
+        checks.answers("a half is rounded up", 128, () -> x.quantised(0, 0));
+        x.weigh(0, 1, 1f);
+        checks.answers("a third", 85, () -> x.quantised(0, 1));
+        x.weigh(2, 11, 0.005f);
+        checks.answers("just below a half", 0, () -> x.quantised(2, 11));
+        x.weigh(2, 11, 0.006f);
+        checks.answers("just above a half", 1, () -> x.quantised(2, 11));
+        x.weigh(2, 11, -0f);
+        checks.answers("of -0", 0, () -> x.quantised(2, 11));
+        // In doubles, or with the 255 before the division, this would be just below a half.
+        x.weigh(1, 7, 84669f);
+        x.weigh(0, 1, 166.01764f);
+        checks.answers("in floats, in the order that is written", 1, () -> x.quantised(0, 1));
+        checks.refuses("document -1", INDEX, () -> x.quantised(-1, 0));
+        checks.refuses("document 3", INDEX, () -> x.quantised(3, 0));
+        checks.refuses("term -1", INDEX, () -> x.quantised(0, -1));
+        checks.refuses("term 12", INDEX, () -> x.quantised(0, 12));
+    }
+
+    private static void everyChangeTakesTheLists() {
+        takesTheLists("document", HybridSearch::document);
+        takesTheLists("count", x -> x.count(0, 0));
+        takesTheLists("weigh", x -> x.weigh(0, 0, 1f));
+        takesTheLists("token", x -> x.token(0, 0f, 0f, 0f, 0f));
+        takesTheLists("centroid", x -> x.centroid(0f, 0f, 0f, 0f));
+        takesTheLists("clear", HybridSearch::clear);
+    }
+
+    private static void takesTheLists(String what, java.util.function.Consumer<HybridSearch> change) {
+        HybridSearch x = Samples.ofAllViews();
+        x.fuse(0);
+        change.accept(x);
+        for (int view = 0; view < 3; view++) {
+            int v = view;
+            checks.refuses("hit after " + what, NO_SUCH, () -> x.hit(v, 0));
+        }
+        checks.refuses("fused after " + what, INDEX, () -> x.fused(0));
+        checks.refuses("rating after " + what, INDEX, () -> x.rating(0));
+        checks.refuses("fuse after " + what, STATE, () -> x.fuse(0));
+    }
+
+    private static void refusedChangesLeaveTheLists() {
+        HybridSearch x = Samples.ofAllViews();
+        x.fuse(0);
+        checks.refuses("count", INDEX, () -> x.count(0, 12));
+        checks.refuses("weigh", ARGUMENT, () -> x.weigh(0, 0, -1f));
+        checks.refuses("token", ARGUMENT, () -> x.token(0, Float.NaN, 0f, 0f, 0f));
+        checks.refuses("centroid", ARGUMENT, () -> x.centroid(Float.NaN, 0f, 0f, 0f));
+        checks.refuses("word", ARGUMENT, () -> x.word(5));
+        checks.refuses("impact", ARGUMENT, () -> x.impact(2, 1));
+        checks.refuses("vector", ARGUMENT, () -> x.vector(Float.NaN, 0f, 0f, 0f));
+        checks.refuses("search", ARGUMENT, () -> x.search(0, 2, 1, 1));
+        checks.refuses("search near", STATE, () -> x.search(2, 2, 1, 1));
+        checks.refuses("fuse", ARGUMENT, () -> x.fuse(3));
+        checks.answers("view 0 stays", 1, () -> x.hit(0, 0));
+        checks.answers("view 1 stays", 5, () -> x.hit(1, 0));
+        checks.answers("view 2 stays", 3, () -> x.hit(2, 0));
+        checks.answers("fused stays", 5, () -> x.fused(0));
+    }
+}
