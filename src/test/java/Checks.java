@@ -2,7 +2,7 @@ import java.util.function.DoubleSupplier;
 import java.util.function.IntSupplier;
 
 /** Counts what is as due and tells the first twenty that are not; end() exits with 1 if there was one. */
-final class Checks {
+final class Checks implements Kinds {
     private final String name;
     private int right;
     private int wrong;
@@ -40,6 +40,74 @@ final class Checks {
 
     void refuses(String what, Class<? extends RuntimeException> due, Runnable call) {
         same(what, thrown(due), outcomeVoid(call));
+    }
+
+    /** A view's list has these documents in this order, and no place before or behind them. */
+    void found(String what, HybridSearch x, int view, int... documents) {
+        for (int i = 0; i < documents.length; i++) {
+            int place = i;
+            answers(what + ", hit " + i, documents[i], () -> x.hit(view, place));
+        }
+        for (int place : new int[] {-1, documents.length, Integer.MIN_VALUE, Integer.MAX_VALUE}) {
+            refuses(what + ", hit " + place, INDEX, () -> x.hit(view, place));
+            refuses(what + ", score " + place, INDEX, () -> x.score(view, place));
+        }
+    }
+
+    void scored(String what, HybridSearch x, int view, double... scores) {
+        for (int i = 0; i < scores.length; i++) {
+            int place = i;
+            answersDouble(what + ", score " + i, scores[i], () -> x.score(view, place));
+        }
+    }
+
+    void worked(String what, HybridSearch x, int view, int scored, int skipped, int passed) {
+        answers(what + ", scored", scored, () -> x.work(view, 0));
+        answers(what + ", skipped", skipped, () -> x.work(view, 1));
+        answers(what + ", passed", passed, () -> x.work(view, 2));
+    }
+
+    void noLists(String what, HybridSearch x) {
+        for (int view = 0; view < 3; view++) {
+            noList(what, x, view);
+        }
+        nothingFused(what, x);
+        for (int i = 0; i < 3; i++) {
+            int way = i;
+            refuses("fuse " + way + " " + what, STATE, () -> x.fuse(way));
+        }
+    }
+
+    void noList(String what, HybridSearch x, int view) {
+        refuses("hit of " + view + " " + what, NO_SUCH, () -> x.hit(view, 0));
+        refuses("score of " + view + " " + what, NO_SUCH, () -> x.score(view, 0));
+        for (int i = 0; i < 3; i++) {
+            int kind = i;
+            refuses("work of " + view + " " + what, NO_SUCH, () -> x.work(view, kind));
+        }
+    }
+
+    /** The latest fuse made these documents in this order, and no place before or behind them. */
+    void fused(String what, HybridSearch x, int... documents) {
+        for (int i = 0; i < documents.length; i++) {
+            int place = i;
+            answers(what + ", fused " + i, documents[i], () -> x.fused(place));
+        }
+        for (int place : new int[] {-1, documents.length, Integer.MIN_VALUE, Integer.MAX_VALUE}) {
+            refuses(what + ", fused " + place, INDEX, () -> x.fused(place));
+            refuses(what + ", rating " + place, INDEX, () -> x.rating(place));
+        }
+    }
+
+    void nothingFused(String what, HybridSearch x) {
+        fused(what, x);
+    }
+
+    void rated(String what, HybridSearch x, double... ratings) {
+        for (int i = 0; i < ratings.length; i++) {
+            int place = i;
+            answersDouble(what + ", rating " + i, ratings[i], () -> x.rating(place));
+        }
     }
 
     static String outcome(IntSupplier call) {

@@ -1,12 +1,5 @@
 /** Promises 1 to 6 and 19: a new object, document, count, weigh, token, centroid, quantised. */
-public final class CollectionTest {
-    private static final Class<IllegalStateException> STATE = IllegalStateException.class;
-    private static final Class<IllegalArgumentException> ARGUMENT = IllegalArgumentException.class;
-    private static final Class<IndexOutOfBoundsException> INDEX = IndexOutOfBoundsException.class;
-    private static final Class<java.util.NoSuchElementException> NO_SUCH = java.util.NoSuchElementException.class;
-    private static final float[] WRONG = {Float.NaN, Float.POSITIVE_INFINITY, Float.NEGATIVE_INFINITY,
-        Math.nextUp(1048576f), -Math.nextUp(1048576f)};
-
+public final class CollectionTest implements Kinds {
     private static final Checks checks = new Checks("CollectionTest");
 
     public static void main(String[] args) {
@@ -18,7 +11,6 @@ public final class CollectionTest {
         centroids();
         quantisedWeights();
         everyChangeTakesTheLists();
-        refusedChangesLeaveTheLists();
         checks.end();
     }
 
@@ -26,15 +18,7 @@ public final class CollectionTest {
         HybridSearch x = new HybridSearch();
         checks.refuses("count without documents", INDEX, () -> x.count(0, 0));
         checks.refuses("quantised without documents", INDEX, () -> x.quantised(0, 0));
-        for (int view = 0; view < 3; view++) {
-            int v = view;
-            checks.refuses("hit without a list", NO_SUCH, () -> x.hit(v, 0));
-            checks.refuses("score without a list", NO_SUCH, () -> x.score(v, 0));
-            checks.refuses("work without a list", NO_SUCH, () -> x.work(v, 0));
-        }
-        checks.refuses("fuse without a list", STATE, () -> x.fuse(0));
-        checks.refuses("fused before fuse", INDEX, () -> x.fused(0));
-        checks.refuses("rating before fuse", INDEX, () -> x.rating(0));
+        checks.noLists("of a new object", x);
         checks.refuses("near without centroids", STATE, () -> x.search(2, 2, 1, 1));
         for (int view = 0; view < 3; view++) {
             int v = view;
@@ -82,7 +66,7 @@ public final class CollectionTest {
         checks.does("-0 is not below 0", () -> x.weigh(0, 0, -0f));
         checks.does("the greatest", () -> x.weigh(0, 0, 1048576f));
         checks.does("the least", () -> x.weigh(0, 11, Float.MIN_VALUE));
-        for (float weight : WRONG) {
+        for (float weight : Samples.WRONG) {
             checks.refuses("weight " + weight, ARGUMENT, () -> x.weigh(0, 0, weight));
             checks.refuses("no such document comes first", INDEX, () -> x.weigh(1, 0, weight));
         }
@@ -101,7 +85,7 @@ public final class CollectionTest {
         checks.answers("token 0", 0, () -> x.token(0, 1f, 2f, 3f, 4f));
         checks.answers("token 1", 1, () -> x.token(0, 1048576f, -1048576f, 0f, -0f));
         checks.answers("another document's", 0, () -> x.token(1, 0f, 0f, 0f, 0f));
-        for (float n : WRONG) {
+        for (float n : Samples.WRONG) {
             checks.refuses("a " + n, ARGUMENT, () -> x.token(0, n, 0f, 0f, 0f));
             checks.refuses("b " + n, ARGUMENT, () -> x.token(0, 0f, n, 0f, 0f));
             checks.refuses("c " + n, ARGUMENT, () -> x.token(0, 0f, 0f, n, 0f));
@@ -119,7 +103,7 @@ public final class CollectionTest {
     private static void centroids() {
         HybridSearch x = new HybridSearch();
         checks.answers("centroid 0", 0, () -> x.centroid(1f, 0f, 0f, 0f));
-        for (float n : WRONG) {
+        for (float n : Samples.WRONG) {
             checks.refuses("a " + n, ARGUMENT, () -> x.centroid(n, 0f, 0f, 0f));
             checks.refuses("b " + n, ARGUMENT, () -> x.centroid(0f, n, 0f, 0f));
             checks.refuses("c " + n, ARGUMENT, () -> x.centroid(0f, 0f, n, 0f));
@@ -169,34 +153,8 @@ public final class CollectionTest {
     }
 
     private static void takesTheLists(String what, java.util.function.Consumer<HybridSearch> change) {
-        HybridSearch x = Samples.ofAllViews();
-        x.fuse(0);
+        HybridSearch x = Samples.fused();
         change.accept(x);
-        for (int view = 0; view < 3; view++) {
-            int v = view;
-            checks.refuses("hit after " + what, NO_SUCH, () -> x.hit(v, 0));
-        }
-        checks.refuses("fused after " + what, INDEX, () -> x.fused(0));
-        checks.refuses("rating after " + what, INDEX, () -> x.rating(0));
-        checks.refuses("fuse after " + what, STATE, () -> x.fuse(0));
-    }
-
-    private static void refusedChangesLeaveTheLists() {
-        HybridSearch x = Samples.ofAllViews();
-        x.fuse(0);
-        checks.refuses("count", INDEX, () -> x.count(0, 12));
-        checks.refuses("weigh", ARGUMENT, () -> x.weigh(0, 0, -1f));
-        checks.refuses("token", ARGUMENT, () -> x.token(0, Float.NaN, 0f, 0f, 0f));
-        checks.refuses("centroid", ARGUMENT, () -> x.centroid(Float.NaN, 0f, 0f, 0f));
-        checks.refuses("word", ARGUMENT, () -> x.word(5));
-        checks.refuses("impact", ARGUMENT, () -> x.impact(2, 1));
-        checks.refuses("vector", ARGUMENT, () -> x.vector(Float.NaN, 0f, 0f, 0f));
-        checks.refuses("search", ARGUMENT, () -> x.search(0, 2, 1, 1));
-        checks.refuses("search near", STATE, () -> x.search(2, 2, 1, 1));
-        checks.refuses("fuse", ARGUMENT, () -> x.fuse(3));
-        checks.answers("view 0 stays", 1, () -> x.hit(0, 0));
-        checks.answers("view 1 stays", 5, () -> x.hit(1, 0));
-        checks.answers("view 2 stays", 3, () -> x.hit(2, 0));
-        checks.answers("fused stays", 5, () -> x.fused(0));
+        checks.noLists("after " + what, x);
     }
 }

@@ -1,9 +1,5 @@
 /** Promises 15 to 17: fuse, fused, rating. */
-public final class FuseTest {
-    private static final Class<IllegalStateException> STATE = IllegalStateException.class;
-    private static final Class<IllegalArgumentException> ARGUMENT = IllegalArgumentException.class;
-    private static final Class<IndexOutOfBoundsException> INDEX = IndexOutOfBoundsException.class;
-
+public final class FuseTest implements Kinds {
     private static final Checks checks = new Checks("FuseTest");
 
     public static void main(String[] args) {
@@ -18,15 +14,8 @@ public final class FuseTest {
     }
 
     private static void made(String what, HybridSearch x, int[] documents, double[] ratings) {
-        for (int i = 0; i < documents.length; i++) {
-            int place = i;
-            checks.answers(what + " fused " + i, documents[i], () -> x.fused(place));
-            checks.answersDouble(what + " rating " + i, ratings[i], () -> x.rating(place));
-        }
-        for (int i : new int[] {-1, documents.length, Integer.MIN_VALUE, Integer.MAX_VALUE}) {
-            checks.refuses(what + " fused " + i, INDEX, () -> x.fused(i));
-            checks.refuses(what + " rating " + i, INDEX, () -> x.rating(i));
-        }
+        checks.fused(what, x, documents);
+        checks.rated(what, x, ratings);
     }
 
     private static void wrongWays() {

@@ -1,10 +1,5 @@
 /** Promises 7 to 10: clear, word, impact, vector. */
-public final class QueryTest {
-    private static final Class<IllegalStateException> STATE = IllegalStateException.class;
-    private static final Class<IllegalArgumentException> ARGUMENT = IllegalArgumentException.class;
-    private static final Class<IndexOutOfBoundsException> INDEX = IndexOutOfBoundsException.class;
-    private static final Class<java.util.NoSuchElementException> NO_SUCH = java.util.NoSuchElementException.class;
-
+public final class QueryTest implements Kinds {
     private static final Checks checks = new Checks("QueryTest");
 
     public static void main(String[] args) {
@@ -52,10 +47,8 @@ public final class QueryTest {
 
     private static void vectors() {
         HybridSearch x = new HybridSearch();
-        float[] wrong = {Float.NaN, Float.POSITIVE_INFINITY, Float.NEGATIVE_INFINITY,
-            Math.nextUp(1048576f), -Math.nextUp(1048576f)};
         checks.answers("vector 1", 1, () -> x.vector(1048576f, -1048576f, 0f, -0f));
-        for (float n : wrong) {
+        for (float n : Samples.WRONG) {
             checks.refuses("a " + n, ARGUMENT, () -> x.vector(n, 0f, 0f, 0f));
             checks.refuses("b " + n, ARGUMENT, () -> x.vector(0f, n, 0f, 0f));
             checks.refuses("c " + n, ARGUMENT, () -> x.vector(0f, 0f, n, 0f));
@@ -85,8 +78,7 @@ public final class QueryTest {
 
     private static void eachTakesItsOwnList() {
         for (int view = 0; view < 3; view++) {
-            HybridSearch x = Samples.ofAllViews();
-            x.fuse(0);
+            HybridSearch x = Samples.fused();
             if (view == 0) {
                 x.word(3);
             } else if (view == 1) {
