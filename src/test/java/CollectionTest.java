@@ -1,9 +1,8 @@
-/** Promises 1 to 6 and 19: a new object, document, count, weigh, token, centroid, quantised. */
+/** Promises 2 to 6 and 19: document, count, weigh, token, centroid, quantised. */
 public final class CollectionTest implements Kinds {
     private static final Checks checks = new Checks("CollectionTest");
 
     public static void main(String[] args) {
-        newObject();
         documents();
         countsOfTerms();
         weights();
@@ -12,22 +11,6 @@ public final class CollectionTest implements Kinds {
         quantisedWeights();
         everyChangeTakesTheLists();
         checks.end();
-    }
-
-    private static void newObject() {
-        HybridSearch x = new HybridSearch();
-        checks.refuses("count without documents", INDEX, () -> x.count(0, 0));
-        checks.refuses("quantised without documents", INDEX, () -> x.quantised(0, 0));
-        checks.noLists("of a new object", x);
-        checks.refuses("near without centroids", STATE, () -> x.search(2, 2, 1, 1));
-        for (int view = 0; view < 3; view++) {
-            int v = view;
-            checks.answers("an empty query finds nothing", 0, () -> x.search(v, 0, 20, 1));
-            checks.answers("and scores nothing", 0, () -> x.work(v, 0));
-        }
-        HybridSearch other = new HybridSearch();
-        checks.answers("an object's first document", 0, x::document);
-        checks.answers("another object's first document", 0, other::document);
     }
 
     private static void documents() {
@@ -52,12 +35,6 @@ public final class CollectionTest implements Kinds {
         checks.refuses("term 12", INDEX, () -> x.count(0, 12));
         checks.refuses("far document", INDEX, () -> x.count(Integer.MAX_VALUE, 0));
         checks.refuses("far term", INDEX, () -> x.count(0, Integer.MIN_VALUE));
-        for (int n = 3; n <= 1000; n++) {
-            checks.answers("count " + n, n, () -> x.count(0, 0));
-        }
-        checks.refuses("count 1001", STATE, () -> x.count(0, 0));
-        checks.refuses("a term that is not there comes first", INDEX, () -> x.count(0, 12));
-        checks.answers("others go on", 2, () -> x.count(0, 11));
     }
 
     private static void weights() {
@@ -85,13 +62,6 @@ public final class CollectionTest implements Kinds {
         checks.answers("token 0", 0, () -> x.token(0, 1f, 2f, 3f, 4f));
         checks.answers("token 1", 1, () -> x.token(0, 1048576f, -1048576f, 0f, -0f));
         checks.answers("another document's", 0, () -> x.token(1, 0f, 0f, 0f, 0f));
-        for (float n : Samples.WRONG) {
-            checks.refuses("a " + n, ARGUMENT, () -> x.token(0, n, 0f, 0f, 0f));
-            checks.refuses("b " + n, ARGUMENT, () -> x.token(0, 0f, n, 0f, 0f));
-            checks.refuses("c " + n, ARGUMENT, () -> x.token(0, 0f, 0f, n, 0f));
-            checks.refuses("d " + n, ARGUMENT, () -> x.token(0, 0f, 0f, 0f, n));
-            checks.refuses("no such document comes first", INDEX, () -> x.token(2, n, 0f, 0f, 0f));
-        }
         checks.refuses("document -1", INDEX, () -> x.token(-1, 0f, 0f, 0f, 0f));
         checks.answers("token 2", 2, () -> x.token(0, 0f, 0f, 0f, 0f));
         checks.answers("token 3", 3, () -> x.token(0, 0f, 0f, 0f, 0f));
@@ -103,12 +73,6 @@ public final class CollectionTest implements Kinds {
     private static void centroids() {
         HybridSearch x = new HybridSearch();
         checks.answers("centroid 0", 0, () -> x.centroid(1f, 0f, 0f, 0f));
-        for (float n : Samples.WRONG) {
-            checks.refuses("a " + n, ARGUMENT, () -> x.centroid(n, 0f, 0f, 0f));
-            checks.refuses("b " + n, ARGUMENT, () -> x.centroid(0f, n, 0f, 0f));
-            checks.refuses("c " + n, ARGUMENT, () -> x.centroid(0f, 0f, n, 0f));
-            checks.refuses("d " + n, ARGUMENT, () -> x.centroid(0f, 0f, 0f, n));
-        }
         checks.answers("centroid 1", 1, () -> x.centroid(1048576f, -1048576f, -0f, 0f));
         checks.answers("centroid 2", 2, () -> x.centroid(0f, 0f, 0f, 0f));
         checks.answers("centroid 3", 3, () -> x.centroid(0f, 0f, 0f, 0f));

@@ -3,12 +3,10 @@ public final class FuseTest implements Kinds {
     private static final Checks checks = new Checks("FuseTest");
 
     public static void main(String[] args) {
-        wrongWays();
         ranks();
         sum();
         many();
         someViewsAlone();
-        emptyLists();
         allScoresEqual();
         checks.end();
     }
@@ -16,16 +14,6 @@ public final class FuseTest implements Kinds {
     private static void made(String what, HybridSearch x, int[] documents, double[] ratings) {
         checks.fused(what, x, documents);
         checks.rated(what, x, ratings);
-    }
-
-    private static void wrongWays() {
-        HybridSearch x = new HybridSearch();
-        checks.refuses("no such way comes first", ARGUMENT, () -> x.fuse(3));
-        checks.refuses("no such way", ARGUMENT, () -> x.fuse(-1));
-        for (int way = 0; way < 3; way++) {
-            int w = way;
-            checks.refuses("no list", STATE, () -> x.fuse(w));
-        }
     }
 
     private static void ranks() {
@@ -68,16 +56,6 @@ public final class FuseTest implements Kinds {
         made("view 1 alone", x, new int[] {5, 2}, new double[] {1.0, 0.0});
         x.impact(3, 1);
         checks.refuses("none is left", STATE, () -> x.fuse(2));
-    }
-
-    private static void emptyLists() {
-        HybridSearch x = new HybridSearch();
-        x.search(0, 0, 5, 1);
-        for (int way = 0; way < 3; way++) {
-            int w = way;
-            checks.answers("an empty list is a list", 0, () -> x.fuse(w));
-        }
-        made("empty", x, new int[0], new double[0]);
     }
 
     private static void allScoresEqual() {

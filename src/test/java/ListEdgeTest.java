@@ -60,17 +60,13 @@ public final class ListEdgeTest implements Kinds {
         for (int view = 0; view < 3; view++) {
             HybridSearch x = Samples.allMatching();
             int v = view;
-            for (int how = 0; how < 3; how += view == 2 ? 2 : 1) {
-                int h = how;
-                if (how == 2 && view != 2) {
-                    break;
-                }
+            for (int how : new int[] {0, view == 2 ? 2 : 1}) {
                 for (int shards : new int[] {Integer.MIN_VALUE, -3, -1, 0, 4, 5, Integer.MAX_VALUE}) {
-                    checks.refuses("shards " + shards, ARGUMENT, () -> x.search(v, h, 20, shards));
+                    checks.refuses("shards " + shards, ARGUMENT, () -> x.search(v, how, 20, shards));
                 }
                 for (int shards = 1; shards <= 3; shards++) {
                     int s = shards;
-                    checks.answers("shards " + s, 16, () -> x.search(v, h, 20, s));
+                    checks.answers("shards " + s, 16, () -> x.search(v, how, 20, s));
                     checks.found("shards " + s, x, v, view == 0 ? UP : DOWN);
                 }
             }

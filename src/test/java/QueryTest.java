@@ -48,12 +48,6 @@ public final class QueryTest implements Kinds {
     private static void vectors() {
         HybridSearch x = new HybridSearch();
         checks.answers("vector 1", 1, () -> x.vector(1048576f, -1048576f, 0f, -0f));
-        for (float n : Samples.WRONG) {
-            checks.refuses("a " + n, ARGUMENT, () -> x.vector(n, 0f, 0f, 0f));
-            checks.refuses("b " + n, ARGUMENT, () -> x.vector(0f, n, 0f, 0f));
-            checks.refuses("c " + n, ARGUMENT, () -> x.vector(0f, 0f, n, 0f));
-            checks.refuses("d " + n, ARGUMENT, () -> x.vector(0f, 0f, 0f, n));
-        }
         checks.answers("the same once more", 2, () -> x.vector(1048576f, -1048576f, 0f, -0f));
         checks.answers("vector 3", 3, () -> x.vector(0f, 0f, 0f, 0f));
         checks.refuses("a fourth", STATE, () -> x.vector(0f, 0f, 0f, 0f));

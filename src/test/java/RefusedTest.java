@@ -1,3 +1,4 @@
+import java.util.function.BiConsumer;
 import java.util.function.Consumer;
 import java.util.function.Supplier;
 
@@ -38,6 +39,17 @@ public final class RefusedTest implements Kinds {
         checks.same(what + ": the object", Probe.of(sample.get()), Probe.of(x));
     }
 
+    private static void wrongNumbers(String what, BiConsumer<HybridSearch, float[]> call) {
+        for (float wrong : Samples.WRONG) {
+            for (int place = 0; place < 4; place++) {
+                float[] vector = new float[4];
+                vector[place] = wrong;
+                refuses(what + ", place " + place + ", " + wrong, ARGUMENT, Samples::fused,
+                        x -> call.accept(x, vector));
+            }
+        }
+    }
+
     private static void documents() {
         refuses("document 16", STATE, HybridSearch::document);
     }
@@ -69,22 +81,12 @@ public final class RefusedTest implements Kinds {
         for (int document : NO_DOCUMENTS) {
             refuses("token, document " + document, INDEX, x -> x.token(document, 0f, 0f, 0f, 0f));
         }
-        for (float n : Samples.WRONG) {
-            refuses("token, a " + n, ARGUMENT, x -> x.token(1, n, 0f, 0f, 0f));
-            refuses("token, b " + n, ARGUMENT, x -> x.token(1, 0f, n, 0f, 0f));
-            refuses("token, c " + n, ARGUMENT, x -> x.token(1, 0f, 0f, n, 0f));
-            refuses("token, d " + n, ARGUMENT, x -> x.token(1, 0f, 0f, 0f, n));
-        }
+        wrongNumbers("token", (x, v) -> x.token(1, v[0], v[1], v[2], v[3]));
         refuses("token 4", STATE, x -> x.token(0, 9f, 9f, 9f, 9f));
     }
 
     private static void centroids() {
-        for (float n : Samples.WRONG) {
-            refuses("centroid, a " + n, ARGUMENT, Samples::fused, x -> x.centroid(n, 0f, 0f, 0f));
-            refuses("centroid, b " + n, ARGUMENT, Samples::fused, x -> x.centroid(0f, n, 0f, 0f));
-            refuses("centroid, c " + n, ARGUMENT, Samples::fused, x -> x.centroid(0f, 0f, n, 0f));
-            refuses("centroid, d " + n, ARGUMENT, Samples::fused, x -> x.centroid(0f, 0f, 0f, n));
-        }
+        wrongNumbers("centroid", (x, v) -> x.centroid(v[0], v[1], v[2], v[3]));
         refuses("centroid 4", STATE, x -> x.centroid(9f, 9f, 9f, 9f));
     }
 
@@ -110,12 +112,7 @@ public final class RefusedTest implements Kinds {
     }
 
     private static void vectors() {
-        for (float n : Samples.WRONG) {
-            refuses("vector, a " + n, ARGUMENT, Samples::fused, x -> x.vector(n, 0f, 0f, 0f));
-            refuses("vector, b " + n, ARGUMENT, Samples::fused, x -> x.vector(0f, n, 0f, 0f));
-            refuses("vector, c " + n, ARGUMENT, Samples::fused, x -> x.vector(0f, 0f, n, 0f));
-            refuses("vector, d " + n, ARGUMENT, Samples::fused, x -> x.vector(0f, 0f, 0f, n));
-        }
+        wrongNumbers("vector", (x, v) -> x.vector(v[0], v[1], v[2], v[3]));
         refuses("a fourth vector", STATE, x -> x.vector(9f, 9f, 9f, 9f));
     }
 

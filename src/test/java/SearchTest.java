@@ -3,8 +3,6 @@ public final class SearchTest implements Kinds {
     private static final Checks checks = new Checks("SearchTest");
 
     public static void main(String[] args) {
-        wrongSearches();
-        wrongPlaces();
         wordsAll();
         wordsPruned();
         impactsAll();
@@ -17,51 +15,6 @@ public final class SearchTest implements Kinds {
         nearestOfEqualCentroids();
         aNewListTakesTheOldOne();
         checks.end();
-    }
-
-    private static void wrongSearches() {
-        HybridSearch x = Samples.withDocuments(1);
-        checks.refuses("view -1", ARGUMENT, () -> x.search(-1, 0, 1, 1));
-        checks.refuses("view 3", ARGUMENT, () -> x.search(3, 0, 1, 1));
-        checks.refuses("words near", ARGUMENT, () -> x.search(0, 2, 1, 1));
-        checks.refuses("impacts near", ARGUMENT, () -> x.search(1, 2, 1, 1));
-        checks.refuses("vectors pruned", ARGUMENT, () -> x.search(2, 1, 1, 1));
-        for (int view = 0; view < 3; view++) {
-            int v = view;
-            checks.refuses("how -1", ARGUMENT, () -> x.search(v, -1, 1, 1));
-            checks.refuses("how 3", ARGUMENT, () -> x.search(v, 3, 1, 1));
-            checks.refuses("k -1", ARGUMENT, () -> x.search(v, 0, -1, 1));
-            checks.refuses("k 21", ARGUMENT, () -> x.search(v, 0, 21, 1));
-            checks.refuses("no shards", ARGUMENT, () -> x.search(v, 0, 1, 0));
-            checks.refuses("shards -1", ARGUMENT, () -> x.search(v, 0, 1, -1));
-            checks.refuses("shards 4", ARGUMENT, () -> x.search(v, 0, 1, 4));
-            checks.refuses("a refused search makes no list", NO_SUCH, () -> x.hit(v, 0));
-        }
-        checks.refuses("near without centroids", STATE, () -> x.search(2, 2, 0, 3));
-        checks.refuses("a wrong k comes first", ARGUMENT, () -> x.search(2, 2, 21, 1));
-        checks.refuses("wrong shards come first", ARGUMENT, () -> x.search(2, 2, 1, 4));
-        x.centroid(0f, 0f, 0f, 0f);
-        checks.answers("near with a centroid", 0, () -> x.search(2, 2, 20, 3));
-    }
-
-    private static void wrongPlaces() {
-        HybridSearch x = Samples.ofAllViews();
-        for (int i : new int[] {-1, 5, Integer.MIN_VALUE, Integer.MAX_VALUE}) {
-            checks.refuses("hit " + i, INDEX, () -> x.hit(0, i));
-            checks.refuses("score " + i, INDEX, () -> x.score(0, i));
-        }
-        for (int view : new int[] {-1, 3, Integer.MIN_VALUE, Integer.MAX_VALUE}) {
-            checks.refuses("hit of view " + view, ARGUMENT, () -> x.hit(view, 0));
-            checks.refuses("score of view " + view, ARGUMENT, () -> x.score(view, 0));
-            checks.refuses("work of view " + view, ARGUMENT, () -> x.work(view, 0));
-        }
-        checks.refuses("what -1", ARGUMENT, () -> x.work(0, -1));
-        checks.refuses("what 3", ARGUMENT, () -> x.work(0, 3));
-        x.clear();
-        checks.refuses("no list comes before the place", NO_SUCH, () -> x.hit(0, -1));
-        checks.refuses("no list comes before the place", NO_SUCH, () -> x.score(0, -1));
-        checks.refuses("what comes before no list", ARGUMENT, () -> x.work(0, 3));
-        checks.refuses("no list", NO_SUCH, () -> x.work(0, 2));
     }
 
     private static void wordsAll() {
