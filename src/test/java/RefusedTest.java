@@ -2,7 +2,10 @@ import java.util.function.BiConsumer;
 import java.util.function.Consumer;
 import java.util.function.Supplier;
 
-/** Every refusal of promises 2 to 19: the exception that the promise names, and an object that is as it was. */
+/**
+ * Every refusal of promises 2 to 19: the exception that the promise names, and an object that is as it was.
+ * That of a full count is in CollectionEdgeTest: it takes more calls than a probe leaves.
+ */
 public final class RefusedTest implements Kinds {
     private static final int[] NO_DOCUMENTS = {Integer.MIN_VALUE, -1, 16, Integer.MAX_VALUE};
     private static final int[] NO_TERMS = {Integer.MIN_VALUE, -1, 12, Integer.MAX_VALUE};
