@@ -11,12 +11,29 @@ import java.util.TreeSet;
 
 /** The public face, and those rules of LANGUAGE.md that a look at the class or its text can tell. */
 public final class FaceTest {
+    private static final String INDEX = " IndexOutOfBoundsException";
+    private static final String ARGUMENT = " IllegalArgumentException";
+    private static final String STATE = " IllegalStateException";
+    private static final String NO_SUCH = " NoSuchElementException";
     private static final String[] FACE = {
-        "int document()", "int count(int, int)", "void weigh(int, int, float)",
-        "int token(int, float, float, float, float)", "int centroid(float, float, float, float)", "void clear()",
-        "int word(int)", "int impact(int, int)", "int vector(float, float, float, float)",
-        "int search(int, int, int, int)", "int hit(int, int)", "double score(int, int)", "int work(int, int)",
-        "int fuse(int)", "int fused(int)", "double rating(int)", "double log(double)", "int quantised(int, int)",
+        "int document()" + STATE,
+        "int count(int, int)" + INDEX + STATE,
+        "void weigh(int, int, float)" + INDEX + ARGUMENT,
+        "int token(int, float, float, float, float)" + INDEX + ARGUMENT + STATE,
+        "int centroid(float, float, float, float)" + ARGUMENT + STATE,
+        "void clear()",
+        "int word(int)" + INDEX + ARGUMENT + STATE,
+        "int impact(int, int)" + INDEX + ARGUMENT + STATE,
+        "int vector(float, float, float, float)" + ARGUMENT + STATE,
+        "int search(int, int, int, int)" + ARGUMENT + STATE,
+        "int hit(int, int)" + ARGUMENT + NO_SUCH + INDEX,
+        "double score(int, int)" + ARGUMENT + NO_SUCH + INDEX,
+        "int work(int, int)" + ARGUMENT + NO_SUCH,
+        "int fuse(int)" + ARGUMENT + STATE,
+        "int fused(int)" + INDEX,
+        "double rating(int)" + INDEX,
+        "double log(double)",
+        "int quantised(int, int)" + INDEX,
     };
     private static final String[] NOT_IN_THE_TEXT = {
         "->", "::", "\\btry\\b", "\\bcatch\\b", "\\bfinally\\b", "\\bsynchronized\\b", "\\bassert\\b",
@@ -29,7 +46,9 @@ public final class FaceTest {
     public static void main(String[] args) throws IOException {
         face();
         members(HybridSearch.class);
-        for (Class<?> inside : HybridSearch.class.getDeclaredClasses()) {
+        Class<?>[] allInside = HybridSearch.class.getDeclaredClasses();
+        checks.that("at most twelve classes", allInside.length < 12);
+        for (Class<?> inside : allInside) {
             members(inside);
             nested(inside);
         }
@@ -45,7 +64,11 @@ public final class FaceTest {
             text.append(gap).append(type.getSimpleName());
             gap = ", ";
         }
-        return text.append(')').toString();
+        text.append(')');
+        for (Class<?> type : method.getExceptionTypes()) {
+            text.append(' ').append(type.getSimpleName());
+        }
+        return text.toString();
     }
 
     private static void face() {
@@ -74,12 +97,16 @@ public final class FaceTest {
     }
 
     private static void members(Class<?> type) {
+        int fields = 0;
         for (Field field : type.getDeclaredFields()) {
             if (Modifier.isStatic(field.getModifiers())) {
                 checks.that(field + " is final", Modifier.isFinal(field.getModifiers()));
                 checks.that(field + " is an int", field.getType() == int.class);
+            } else {
+                fields++;
             }
         }
+        checks.that(type + " has at most twenty fields", fields <= 20);
         for (Method method : type.getDeclaredMethods()) {
             checks.that(method + " has at most seven parameters", method.getParameterCount() <= 7);
         }
